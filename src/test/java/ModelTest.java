@@ -68,7 +68,15 @@ public final class ModelTest {
         if (below(50) == 0) {
             return odd();
         }
-        return below(Math.max(1, Math.min(24, model.told(9) + (below(10) == 0 ? 1 : 0))));
+        int there = model.told(3);
+        if (there != 0 && below(12) > 0) {
+            int skip = below(Integer.bitCount(there));
+            for (int i = 0; i < skip; i++) {
+                there &= there - 1;
+            }
+            return Integer.numberOfTrailingZeros(there);
+        }
+        return below(24);
     }
 
     private int boxOrTop() {
@@ -136,7 +144,7 @@ public final class ModelTest {
         } else if (r < 34) {
             tellOnce();
         } else if (r < 36) {
-            int b = manner == 0 ? below(3) == 0 ? box() : odd() : box();
+            int b = manner < 3 && below(4) > 0 ? odd() : box();
             same("drops(" + b + ")", real.drops(b), model.drops(b));
         } else if (r < 40) {
             int b = box();
@@ -169,11 +177,15 @@ public final class ModelTest {
 
     private void tellOnce() {
         int b = box();
-        int what = upTo(6);
         int kind = model.of(b, 0);
+        int numbers = kind < 0 ? 4 : PlainModel.RANGES[kind].length;
+        int what = below(10) == 0 ? upTo(7) : below(2) == 0 || numbers == 0 ? 4 + below(3) : below(numbers);
         int v = what >= 0 && what < 4 ? numberOf(kind, what) : what == 4 ? upTo(9) : upTo(99);
-        if (what == 5 && below(2) == 0) {
+        if (what == 5 && below(3) > 0) {
             v = below(30);
+        }
+        if (what == 4 && below(3) == 0) {
+            v = 0;
         }
         same("tells(" + b + ", " + what + ", " + v + ")", real.tells(b, what, v), model.tells(b, what, v));
     }
