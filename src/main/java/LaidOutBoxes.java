@@ -1036,12 +1036,15 @@ public final class LaidOutBoxes {
             visits = 0;
             skips = 0;
             visited = 0;
-            int left = world.listed & world.there;
-            for (int depth = 0; depth < MOST_BOXES && left != 0; depth++) {
+            if (isDue(world.top, 0)) {
+                lay(world.boxes[world.top], 0, world.screenWide, 0, world.screenHigh, 0);
+            }
+            for (int depth = 1; depth < MOST_BOXES && (world.listed & world.dirty) != 0; depth++) {
                 for (int i = 0; i < world.came; i++) {
-                    if (((left >>> i) & 1) == 1 && world.boxes[i].depth == depth) {
-                        left &= ~(1 << i);
-                        layListed(world.boxes[i]);
+                    if (isDue(i, depth)) {
+                        Box box = world.boxes[i];
+                        Laid had = box.laid;
+                        lay(box, had.leastWide, had.mostWide, had.leastHigh, had.mostHigh, depth);
                     }
                 }
             }
@@ -1049,16 +1052,9 @@ public final class LaidOutBoxes {
             work += visits + skips;
         }
 
-        private void layListed(Box box) {
-            Laid laid = box.laid;
-            if (!world.isDirty(box.number)) {
-                return;
-            }
-            if (box.number == world.top) {
-                lay(box, 0, world.screenWide, 0, world.screenHigh, 0);
-            } else {
-                lay(box, laid.leastWide, laid.mostWide, laid.leastHigh, laid.mostHigh, box.depth);
-            }
+        private boolean isDue(int number, int depth) {
+            return world.has(number) && ((world.listed & world.dirty) >>> number & 1) == 1
+                    && world.boxes[number].depth == depth;
         }
 
         private void lay(Box box, int leastWide, int mostWide, int leastHigh, int mostHigh, int depth) {
@@ -1851,7 +1847,7 @@ public final class LaidOutBoxes {
             if (depth >= MOST_BOXES) {
                 return;
             }
-            put(Kinds.nameOf(box.kind));
+            putWord(Kinds.nameOf(box.kind));
             for (int i = 0; i < Kinds.numbersOf(box.kind); i++) {
                 put(' ');
                 putNumber(box.numbers[i]);
@@ -1876,7 +1872,7 @@ public final class LaidOutBoxes {
             }
         }
 
-        private void put(String word) {
+        private void putWord(String word) {
             for (int i = 0; i < word.length(); i++) {
                 put(word.charAt(i));
             }
