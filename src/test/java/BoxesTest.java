@@ -131,6 +131,7 @@ public final class BoxesTest {
         due("3: c", x.tells(0, 2, 0), 3);
         due("3: d", x.tells(0, 3, 0), 4);
         due("3: SHARE", x.tells(1, 4, 9), 0);
+        due("3: LEAST alike", x.tells(1, 5, 0), 0);
         due("3: LEAST", x.tells(1, 5, 99), 0);
         due("3: MOST", x.tells(1, 6, 99), 99);
         due("3: all there", x.of(0, 3) * 1000 + x.of(0, 4) * 10 + x.of(0, 5) + x.of(0, 6), 2990);
@@ -322,6 +323,10 @@ public final class BoxesTest {
         due("10: into a PARENT", Check.read(x, 4, "pad 1 1(layers 2)"), 2);
         due("10: the last CHILD", x.child(4, 0) * 10 + x.child(6, 0), 67);
         due("10: its PARENT is MARKED", x.told(4), 1 + 16 + 64 + 128);
+        due("10: a FAULT behind a TREE that was whole", Check.read(x, 0, "row 0 0(fit"), -111);
+        Check.read(x, 0, "fit*7(fit*6)");
+        Check.read(x, 0, "fit(fit)");
+        due("10: no SHARE of another TREE", x.of(8, 7) * 1000 + x.of(9, 7) * 100 + x.of(10, 7) + x.of(11, 7), 7600);
         LaidOutBoxes y = Check.laidTree("ratio 1 1(row 0 0)");
         y.asks(1, 0);
         Check.read(y, 1, "block 1 1*2");

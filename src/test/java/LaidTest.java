@@ -118,6 +118,7 @@ public final class LaidTest {
         LaidOutBoxes x = onScreen(100, 100, "fit(text 5 0)");
         Check.dueBounds(x, 1, 24, 24, 0, 100);
         Check.duePlace(x, 0, 0, 0, 24, 2);
+        Check.duePlace(x, 1, 0, 0, 24, 2);
         x = onScreen(13, 100, "fit(text 5 0)");
         Check.dueBounds(x, 1, 13, 13, 0, 100);
         Check.duePlace(x, 0, 0, 0, 13, 4);
@@ -178,6 +179,8 @@ public final class LaidTest {
         x = onScreen(100, 100, "ratio 1 1(row 0 0(block 10 4))");
         Check.duePlace(x, 1, 0, 0, 100, 100);
         due("12: OVER", x.at(1, 6), 0);
+        Check.duePlace(onScreen(100, 100, "limit 20 99 30 99(row 0 0(block 10 4))"), 1, 0, 0, 20, 30);
+        Check.duePlace(onScreen(100, 100, "limit 20 99 30 99(column 0 0(block 10 4))"), 1, 0, 0, 20, 30);
     }
 
     private static void shares() {
@@ -228,6 +231,18 @@ public final class LaidTest {
         due("12: all MOSTS", x.at(1, 4) * 100 + x.at(2, 4), 2030);
         due("12: the ROW has all of it still", x.at(0, 4), 100);
         due("12: ROUNDS", x.at(0, 7), 1);
+        x.tells(1, 4, 0);
+        x.tells(2, 4, 0);
+        x.lays();
+        due("12: no ROUNDS any more", x.at(0, 7), 0);
+        x = Check.tree("row 0 0(block 1 1*1,block 1 1*1)");
+        x.tells(1, 5, 51);
+        x.lays();
+        due("12: more by 1", x.at(1, 4) * 1000 + x.at(2, 4) * 10 + x.at(0, 7), 51492);
+        x.tells(1, 5, 0);
+        x.tells(1, 6, 49);
+        x.lays();
+        due("12: less by 1", x.at(1, 4) * 1000 + x.at(2, 4) * 10 + x.at(0, 7), 49512);
     }
 
     private static void across() {
@@ -283,6 +298,7 @@ public final class LaidTest {
         x = onScreen(100, 100, "row 4 0");
         Check.duePlace(x, 0, 0, 0, 0, 0);
         due("13: BASE of a ROW without CHILDREN", x.at(0, 8), NO_SUCH);
+        due("13: BASE of a ROW of a BLOCK alone", onScreen(100, 100, "row 4 0(block 1 7)").at(0, 8), 7);
     }
 
     private static void bases() {
@@ -338,6 +354,10 @@ public final class LaidTest {
         due("12: a clean one isn't gone through", x.told(4), 2 + 1 + 16 + 32);
         due("12: THE LIST", x.told(5), 1 + 16);
         due("12: both, and a SKIP", x.lays() * 10 + x.told(8), 41);
+        LaidOutBoxes y = Check.laidTree("ratio 1 1(centre(block 2 2))");
+        y.tells(2, 0, 9);
+        due("12: THE LIST", y.told(5), 2);
+        due("12: right below THE TOP", y.lays() * 100 + y.at(2, 4), 209);
     }
 
     private static void atAndBounds() {
@@ -375,6 +395,10 @@ public final class LaidTest {
             due("15: GREATEST of " + trees[i], x.asks(0, 0), greatest[i]);
             due("15: NARROW of " + trees[i], x.asks(0, 1), narrow[i]);
         }
+        LaidOutBoxes text = Check.tree("text 3 2");
+        due("15: words 8 1 8", text.asks(0, 0) * 100 + text.asks(0, 1), 1908);
+        due("15: the MEMOS", text.asks(0, 0) * 100 + text.asks(0, 1), 1908);
+        due("15: the first word is the widest", Check.tree("text 2 2").asks(0, 1), 8);
         LaidOutBoxes x = Check.tree("row 0 1(block 9 1,block 50 1,row 0 0(block 99 1,block 99 1))");
         x.tells(1, 5, 20);
         x.tells(2, 6, 30);

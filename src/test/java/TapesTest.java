@@ -123,6 +123,7 @@ public final class TapesTest {
         due("35: down", x.shift(0, 1, 0, 0, 4), 4);
         dueRow("35: down", x, 0, 1, 2, 3, 4, 4);
         due("35: none at the end", x.shift(0, 5, 1, 3, 0), 0);
+        due("35: all of it", x.shift(1, 0, 1, 0, 3), 3);
         int[][] refused = {{4, 0, 0, 0, 1, NONE}, {0, 0, -1, 0, 1, NONE}, {0, 0, 3, 0, 1, NOTHING},
             {3, -1, 0, 0, 1, NOTHING}, {0, 0, 2, 0, 1, CAST}, {0, -1, 2, 0, 1, CAST}, {0, 0, 1, 0, -1, PLACE},
             {0, -1, 1, 0, 1, PLACE}, {0, 0, 1, -1, 1, PLACE}, {0, 4, 1, 0, 2, PLACE}, {0, 0, 1, 2, 2, PLACE},
@@ -170,6 +171,49 @@ public final class TapesTest {
         x.lays();
         x.undo();
         due("37: DIRTY and THE LIST", x.of(3, 10) * 10 + x.of(2, 11), 11);
+        imageKeepsWhatLies();
+        numbersAreGivenAgain();
+    }
+
+    private static void imageKeepsWhatLies() {
+        LaidOutBoxes x = Check.laidTree("row 4 0(block 30 5*1,text 3 2)");
+        x.asks(1, 0);
+        x.asks(2, 1);
+        x.plan(1, 3);
+        x.plan(2, 4);
+        int saved = x.saved();
+        x.image();
+        x.tells(0, 0, 0);
+        x.tells(1, 0, 9);
+        x.tells(1, 4, 0);
+        x.tells(2, 1, 0);
+        x.lays();
+        x.asks(1, 0);
+        x.asks(2, 1);
+        x.plan(-1, 0);
+        x.plan(2, 0);
+        x.undo();
+        due("37: BASE and ROUNDS", x.at(0, 8) * 10 + x.at(0, 7), 51);
+        due("37: the MEMOS", x.asks(1, 0) * 10 + x.asks(2, 1), 308);
+        due("37: none made by that", x.told(13), 4);
+        due("37: the PLAN", x.saved(), saved);
+        due("37: its rows", x.told(11), 2);
+    }
+
+    private static void numbersAreGivenAgain() {
+        LaidOutBoxes x = Check.laidTree("row 4 0(block 30 5)");
+        x.image();
+        x.comes(8, 0, 1, 1, 0, 0);
+        x.comes(0, 2, 7, 7, 0, 0);
+        x.tells(2, 5, 20);
+        x.tells(2, 6, 30);
+        x.lays();
+        x.asks(2, 0);
+        x.undo();
+        due("37: given again", x.comes(1, 0, 3, 3, 0, 0), 2);
+        Check.dueAt(x, 2, 0, 0, 0, 0, 0, 0, 0, 0, 0, NO_SUCH);
+        due("37: as a new one", x.bounds(2, 0) * 1000 + x.of(2, 8) * 100 + x.of(2, 9) + x.of(2, 2), -5000 + 99);
+        due("37: as a new one", x.of(2, 10) * 100 + x.of(2, 12) * 10 + x.of(2, 13), 100);
     }
 
     private static void whatUndoLeaves() {

@@ -18,6 +18,7 @@ public final class ThoughtTest {
         mean();
         taken();
         nothingChanges();
+        justEnoughWork();
         tooMuchWork();
         Check.end("promises 18 to 30");
     }
@@ -141,6 +142,7 @@ public final class ThoughtTest {
         due("23: of LAYERS", z.fits(0, 0), 7);
         due("23: a copy and a VISIT for each it may have", z.told(12), 6);
         due("23: of a CENTRE", Check.tree("centre").fits(0, 0), NONE);
+        due("23: from 2 on", Check.tree("row 0 0(ratio 1 1,block 50 1)").fits(1, 1), 1020);
     }
 
     private static void plan() {
@@ -150,7 +152,7 @@ public final class ThoughtTest {
         due("24: 10", x.plan(1, 10), BAD);
         due("24: -1", x.plan(1, -1), BAD);
         for (int i = 1; i <= 8; i++) {
-            due("24: a row", x.plan(i % 3, i), i);
+            due("24: a row", x.plan(i % 3, i == 1 ? 0 : i + 1), i);
         }
         due("24: the ninth", x.plan(1, 1), FULL);
         due("24: BAD ahead of FULL", x.plan(1, 11), BAD);
@@ -190,6 +192,9 @@ public final class ThoughtTest {
         due("26: part -1", x.likely(2, -1), NO);
         LaidOutBoxes down = Check.laidTree("column 0 0(block 5 60,block 5 60)");
         due("26: b is told, too", down.likely(2, 0) * 10 + down.likely(2, 1), 34);
+        down.screen(100, 60);
+        due("26: as 0", down.likely(2, 0) * 10 + down.likely(2, 1), 34);
+        due("26: of THE TOP", Check.tree("block 9 9").likely(5, 1), 1);
         LaidOutBoxes six = Check.tree("row 0 0(text 0 0,block 1 1,block 1 1,block 1 1,block 1 1,block 1 1,block 1 1)");
         six.comes(0, 0, 99, 1, 0, 0);
         due("26: the first six", six.likely(2, 0) * 1000 + six.likely(2, 1), 7064);
@@ -207,6 +212,14 @@ public final class ThoughtTest {
         due("27: again", x.drawn(1) * 100 + x.drawn(1), 2754);
         due("28: SEED", x.seed(Integer.MIN_VALUE), -1770082073);
         due("28: SEED", x.seed(-1), Integer.MIN_VALUE);
+        x.seed(1);
+        int together = 0;
+        for (int i = 0; i < 20; i++) {
+            together += x.drawn(1);
+        }
+        x.seed(1);
+        due("27: n 20", x.drawn(20), together);
+        x.seed(-1);
         due("27: n 0", x.drawn(0), BAD);
         due("27: n 21", x.drawn(21), BAD);
         due("27: n -1", x.drawn(-1), BAD);
@@ -227,6 +240,7 @@ public final class ThoughtTest {
         due("29: as LAID last", x.mean(0), 26);
         x.drops(1);
         due("29: in least terms", x.mean(0) * 10 + x.mean(1), 81);
+        due("29: of one BOX", Check.laidTree("block 7 7").mean(0), 7);
         due("29: part 2", x.mean(2), NO);
         due("29: part -1", x.mean(-1), NO);
         x.drops(0);
@@ -270,6 +284,18 @@ public final class ThoughtTest {
         x.saved();
         x.likely(3, 1);
         Check.sameText("18 to 26 change nothing but WORK", Check.all(x).replaceFirst("^(\\S+ ){12}\\S+", ""), before);
+    }
+
+    private static void justEnoughWork() {
+        LaidOutBoxes x = Check.tree("block 1 1");
+        for (int i = 0; i < 19999; i++) {
+            x.tall(i % 200);
+        }
+        due("17: WORK", x.told(12), 39998);
+        due("20: begun below 40000", x.tall(9), 1);
+        due("17: WORK", x.told(12), 40000);
+        due("20: FULL at 40000", x.tall(9), FULL);
+        due("26: FULL at 40000", x.likely(2, 1), NO);
     }
 
     private static void tooMuchWork() {
