@@ -198,6 +198,16 @@ public final class TapesTest {
         due("37: none made by that", x.told(13), 4);
         due("37: the PLAN", x.saved(), saved);
         due("37: its rows", x.told(11), 2);
+        LaidOutBoxes y = Check.laidTree("row 0 3(block 10 4,block 20 8)");
+        y.plan(1, 1);
+        y.plan(2, 2);
+        y.image();
+        y.plan(-1, 0);
+        y.plan(1, 0);
+        y.plan(2, 0);
+        due("25: SHARES alike", y.saved(), 1);
+        y.undo();
+        due("37: SHARES of the PLAN", y.saved(), 2);
     }
 
     private static void numbersAreGivenAgain() {
