@@ -1512,9 +1512,9 @@ public final class LaidOutBoxes {
 
         final World real;
         final World copy = new World();
-        final World anew = new World();
+        final World second = new World();
         final Layout ofCopy = new Layout(copy);
-        final Layout ofAnew = new Layout(anew);
+        final Layout ofSecond = new Layout(second);
         final int[] blocks = new int[MOST_BLOCKS];
         private int copied;
 
@@ -1523,7 +1523,7 @@ public final class LaidOutBoxes {
         }
 
         int workDone() {
-            return copied + ofCopy.work + ofAnew.work;
+            return copied + ofCopy.work + ofSecond.work;
         }
 
         boolean isTired() {
@@ -1538,10 +1538,10 @@ public final class LaidOutBoxes {
         int agreesAnew() {
             beginAgain(copy);
             ofCopy.layOut();
-            beginAgain(anew);
-            anew.markAllAnew();
-            ofAnew.layOut();
-            return copy.isLaidLike(anew) ? 1 : 0;
+            beginAgain(second);
+            second.markAllAnew();
+            ofSecond.layOut();
+            return copy.isLaidLike(second) ? 1 : 0;
         }
 
         private void tryScreen(int wide, int high) {
@@ -1613,18 +1613,18 @@ public final class LaidOutBoxes {
             int oneByOne = 0;
             beginAgain(copy);
             ofCopy.layOut();
-            beginAgain(anew);
-            ofAnew.layOut();
+            beginAgain(second);
+            ofSecond.layOut();
             for (int i = 0; i < real.planRows; i++) {
                 if (real.has(real.planBoxes[i])) {
                     copy.tell(real.planBoxes[i], 4, real.planShares[i]);
                     ofCopy.layOut();
                     oneByOne += ofCopy.visits;
-                    anew.tell(real.planBoxes[i], 4, real.planShares[i]);
+                    second.tell(real.planBoxes[i], 4, real.planShares[i]);
                 }
             }
-            ofAnew.layOut();
-            return oneByOne - ofAnew.visits;
+            ofSecond.layOut();
+            return oneByOne - ofSecond.visits;
         }
 
         int gatherBlocks() {
