@@ -2,15 +2,21 @@
 final class Check {
     private static int checks;
     private static int wrong;
+    private static String about = "";
 
     private Check() {
+    }
+
+    /** What is said ahead of each wrong answer from here on. */
+    static void about(String words) {
+        about = words;
     }
 
     static void due(String what, long got, long want) {
         checks++;
         if (got != want) {
             wrong++;
-            System.out.println(what + " answered " + got + ", due is " + want);
+            System.out.println(about + what + " answered " + got + ", due is " + want);
         }
     }
 
@@ -18,7 +24,7 @@ final class Check {
         checks++;
         if (!got.equals(want)) {
             wrong++;
-            System.out.println(what + " is\n  " + got + "\ndue is\n  " + want);
+            System.out.println(about + what + " is\n  " + got + "\ndue is\n  " + want);
         }
     }
 
@@ -46,6 +52,14 @@ final class Check {
             x.letter(letters.charAt(i));
         }
         return x.reads(parent);
+    }
+
+    /** A new object that holds the TREE, LAID OUT on a SCREEN. */
+    static LaidOutBoxes onScreen(int wide, int high, String letters) {
+        LaidOutBoxes x = tree(letters);
+        x.screen(wide, high);
+        x.lays();
+        return x;
     }
 
     /** A new object that holds the TREE. */
