@@ -441,8 +441,8 @@ final class BoxEdges {
     }
 
     private static void of() {
-        Edge.of(7, "Of a BOX: 0 KIND, 1 PARENT (-1), 2 how many CHILDREN, 3 .. 6 numbers, 7 SHARE, 8 LEAST, 9 MOST, 10"
-                + " DIRTY (1, 0), 11 on THE LIST, 12 MEMOS (1 GREATEST, 2 NARROW), 13 BASED, 14 how deep.");
+        Edge.of(7, "Of a BOX: 0 KIND, 1 PARENT (-1), 2 how many CHILDREN, 3 .. 6 numbers, 7 SHARE, 8 LEAST, 9 MOST,"
+                + " 10 DIRTY (1, 0), 11 on THE LIST, 12 MEMOS (1 GREATEST, 2 NARROW), 13 BASED, 14 how deep.");
         LaidOutBoxes x = Check.laidTree("row 4 20(limit 11 12 13 14*7(text 2 2))");
         x.tells(1, 6, 50);
         x.tells(1, 5, 40);

@@ -33,10 +33,7 @@ public final class LaidTest {
     }
 
     private static LaidOutBoxes onScreen(int wide, int high, String tree) {
-        LaidOutBoxes x = Check.tree(tree);
-        x.screen(wide, high);
-        x.lays();
-        return x;
+        return Check.onScreen(wide, high, tree);
     }
 
     private static void blocks() {

@@ -23,6 +23,7 @@ final class LayingEdges {
         room();
         rounds();
         freezing();
+        asDeepAsCanBe();
         alongAndOver();
         places();
         standing();
@@ -74,8 +75,8 @@ final class LayingEdges {
         LaidOutBoxes none = onScreen(0, 0, "pad 1 1(block 1 1)");
         none.tells(1, 0, 2);
         due("a SCREEN of 0 by 0 makes JUST ones", none.told(5), 2);
-        Edge.of(12, "A BOX is LAID by BOUNDS: its SIZE (WIDE, HIGH) comes of that, always HELD by them, and the place (x, y)"
-                + " of each CHILD in it.");
+        Edge.of(12, "A BOX is LAID by BOUNDS: its SIZE (WIDE, HIGH) comes of that, always HELD by them, and the place"
+                + " (x, y) of each CHILD in it.");
         String[] kinds = {"block 60 60", "text 12 3", "pad 20 20", "limit 60 70 60 70", "centre", "fit", "ratio 3 2",
             "layers 0", "row 0 0", "row 4 0", "column 0 0"};
         for (String kind : kinds) {
@@ -102,8 +103,8 @@ final class LayingEdges {
     }
 
     private static void texts() {
-        Edge.of(12, "a words; word k is as WIDE as 1 and the remainder of 7 m m and 3 m by 9, m being the remainder of b and"
-                + " k by 32.");
+        Edge.of(12, "a words; word k is as WIDE as 1 and the remainder of 7 m m and 3 m by 9, m being the remainder"
+                + " of b and k by 32.");
         int[] wides = {1, 2, 8, 1, 8, 2, 1, 5, 5};
         for (int b = 0; b < 32; b++) {
             due("one word, b " + b, onScreen(100, 100, "text 1 " + b).at(0, WIDE), wides[b % 9]);
@@ -111,8 +112,8 @@ final class LayingEdges {
         due("from 31 on to 0", onScreen(100, 100, "text 2 31").at(0, WIDE), 8 + 1 + 1);
         due("12 words from 31 on", onScreen(100, 100, "text 12 31").at(0, WIDE), 8 + 1 + 2 + 8 + 1 + 8 + 2 + 1 + 5 + 5 + 1 + 2 + 11);
         due("no words", onScreen(100, 100, "text 0 31").at(0, WIDE), 0);
-        Edge.of(12, "In lines: a word comes behind the line's last one with a blank (1) between, if the line is no more than the"
-                + " most WIDE then, else it begins a line.");
+        Edge.of(12, "In lines: a word comes behind the line's last one with a blank (1) between, if the line is no"
+                + " more than the most WIDE then, else it begins a line.");
         // words 1 2 8 1 8
         int[][] sizes = {{24, 24, 2}, {23, 15, 4}, {15, 15, 4}, {14, 13, 4}, {13, 13, 4}, {12, 10, 6}, {10, 10, 6}, {9, 8, 8},
             {8, 8, 8}, {7, 7, 8}, {4, 4, 8}, {3, 3, 10}, {2, 2, 10}, {1, 1, 10}, {0, 0, 10}};
@@ -195,7 +196,8 @@ final class LayingEdges {
     }
 
     private static void fits() {
-        Edge.of(12, "q is the CHILD's GREATEST (0 of none), HELD; the CHILD by WIDE just q, HIGH as its own; at (0, 0);");
+        Edge.of(12, "q is the CHILD's GREATEST (0 of none), HELD; the CHILD by WIDE just q, HIGH as its own; at (0,"
+                + " 0);");
         int[][] wides = {{25, 24}, {24, 24}, {23, 23}, {0, 0}};
         for (int[] w : wides) {
             Check.dueBounds(onScreen(w[0], 50, "fit(text 5 0)"), 1, w[1], w[1], 0, 50);
@@ -231,7 +233,8 @@ final class LayingEdges {
         Check.duePlace(onScreen(60, 1000, "row 0 0(ratio 9 1)"), 1, 0, 0, 90, 10);
         Check.duePlace(onScreen(60, 1000, "row 0 0(ratio 1 9)"), 1, 0, 0, 10, 90);
         Check.duePlace(onScreen(60, 0, "row 0 0(ratio 3 2)"), 1, 0, 0, 0, 0);
-        Edge.of(12, "h is w times b by a; is that more than the most HIGH, h is that and w is h times a by b (all cut).");
+        Edge.of(12, "h is w times b by a; is that more than the most HIGH, h is that and w is h times a by b (all"
+                + " cut).");
         Check.duePlace(onScreen(60, 40, "ratio 3 2"), 0, 0, 0, 60, 40);
         Check.duePlace(onScreen(60, 39, "ratio 3 2"), 0, 0, 0, 58, 39);
         Check.duePlace(onScreen(61, 40, "ratio 3 2"), 0, 0, 0, 61, 40);
@@ -314,8 +317,8 @@ final class LayingEdges {
     }
 
     private static void room() {
-        Edge.of(12, "Then, if there are others, ROOM is M less all these and each b (0 at least), in ROUNDS, none of the others"
-                + " being FROZEN at first:");
+        Edge.of(12, "Then, if there are others, ROOM is M less all these and each b (0 at least), in ROUNDS, none of"
+                + " the others being FROZEN at first:");
         int[][] rooms = {{32, 20}, {13, 1}, {12, 0}, {11, 0}, {0, 0}};
         for (int[] r : rooms) {
             LaidOutBoxes x = onScreen(r[0], 9, "row 0 1(block 9 1,block 5 1*3,block 1 1)");
@@ -336,8 +339,8 @@ final class LayingEdges {
     }
 
     private static void rounds() {
-        Edge.of(12, "each that isn't FROZEN gets REST times SHARE by all SHARES of such ones, cut; what is left over goes to"
-                + " them by 1 in order; then it is HELD by LEAST and MOST.");
+        Edge.of(12, "each that isn't FROZEN gets REST times SHARE by all SHARES of such ones, cut; what is left over"
+                + " goes to them by 1 in order; then it is HELD by LEAST and MOST.");
         int[][] parts = {{0, 0}, {1, 1000000}, {2, 1001000}, {3, 1001001}, {4, 2001001}, {5, 2002001}};
         for (int[] p : parts) {
             due("of " + p[0], widesOf(onScreen(p[0], 9, "row 0 0(fit*1,fit*1,fit*1)"), 1, 3), p[1]);
@@ -363,6 +366,13 @@ final class LayingEdges {
         x.tells(2, 5, 0);
         x.lays();
         due("all of it is FROZEN", widesOf(x, 1, 2) * 10 + x.at(0, ROUNDS), 990002);
+        LaidOutBoxes y = Check.tree("row 0 0(fit*1,fit*1,fit*1)");
+        y.tells(1, 5, 99);
+        y.tells(2, 5, 1);
+        y.screen(90, 9);
+        y.lays();
+        // a REST below 0 would be less than the last one's LEAST of 0, and freeze it with the second
+        due("of a REST of 0 the last one isn't HELD", widesOf(y, 1, 3) * 10L + y.at(0, ROUNDS), 990010003L);
     }
 
     private static void freezing() {
@@ -383,8 +393,8 @@ final class LayingEdges {
         y.lays();
         due("who has its LEAST without that isn't FROZEN", y.at(0, ROUNDS), 3);
         due("its part is 24 then, so it is HELD, too", widesOf(y, 1, 3), 25028047);
-        Edge.of(12, "less, those that get their MOST by that. So on, till all are FROZEN; then each, in order, is LAID by just that"
-                + " ALONG.");
+        Edge.of(12, "less, those that get their MOST by that. So on, till all are FROZEN; then each, in order, is"
+                + " LAID by just that ALONG.");
         x.tells(1, 5, 60);
         x.tells(2, 6, 39);
         x.lays();
@@ -404,6 +414,32 @@ final class LayingEdges {
         z.tells(1, 6, 10);
         z.lays();
         due("a MOST that is the LEAST", z.at(1, WIDE), 10);
+    }
+
+    private static void asDeepAsCanBe() {
+        Edge.of(12, "A BOX is LAID by BOUNDS");
+        for (int kind = 2; kind <= 9; kind++) {
+            LaidOutBoxes x = new LaidOutBoxes();
+            for (int i = 0; i < 23; i++) {
+                x.comes(kind, i - 1, kind == 3 ? 0 : 1, kind == 3 ? 99 : 1, 0, 99);
+            }
+            x.comes(TEXT, 22, 1, 2, 0, 0);
+            due("24 deep, KIND " + kind, x.lays(), 24);
+            due("the deepest has its SIZE", x.at(23, WIDE) > 0 && x.at(23, HIGH) > 0 ? 1 : 0, 1);
+            due("GREATEST through all of them", x.asks(0, 0), kind == 2 ? 46 + 8 : kind == 6 ? 10 : 8);
+            due("a BASE through all of them", x.at(0, BASE), x.at(23, 3) + 1);
+            due("the deepest is at its point", x.hit(x.at(23, 2), x.at(23, 3)), 23);
+            due("reached through all of them", x.reached(23, 0), kind == 6 ? 1 << 23 : 0xFFFFFF);
+            due("all of them are gone", x.drops(0), 24);
+        }
+        LaidOutBoxes based = Check.tree("row 4 0");
+        for (int i = 1; i < 23; i++) {
+            based.comes(2, i - 1, 1, 1, 0, 0);
+        }
+        based.comes(TEXT, 22, 1, 2, 0, 0);
+        based.lays();
+        due("BASED, all below the ROW", based.of(1, 13) * 10 + based.of(23, 13), 11);
+        due("the greatest ABOVE", based.at(0, BASE), 23);
     }
 
     private static void alongAndOver() {
@@ -470,8 +506,8 @@ final class LayingEdges {
         // ABOVE 4, 2, 1, BELOW 4, 0, 1
         due("HIGH", x.at(0, HIGH), 8);
         due("y", x.at(1, 1) * 100 + x.at(3, 1) * 10 + x.at(4, 1), 23);
-        Edge.of(12, "the ROW is as HIGH as the greatest ABOVE and BELOW (0 at least each) together, HELD, each CHILD as far down"
-                + " as ABOVE is less than the greatest.");
+        Edge.of(12, "the ROW is as HIGH as the greatest ABOVE and BELOW (0 at least each) together, HELD, each CHILD"
+                + " as far down as ABOVE is less than the greatest.");
         Check.duePlace(onScreen(100, 100, "row 4 9"), 0, 0, 0, 0, 0);
         LaidOutBoxes y = onScreen(100, 0, "row 4 0(text 1 0,pad 0 20(text 1 0))");
         // all are 0 HIGH: ABOVE 1 and 21, BELOW -1 and -21
@@ -574,8 +610,8 @@ final class LayingEdges {
     }
 
     private static void memos() {
-        Edge.of(15, "What is ASKED so of a BOX (by a FIT, by another BOX that is ASKED, by a call) is a MEMO of it, not ASKED again"
-                + " while it is there.");
+        Edge.of(15, "What is ASKED so of a BOX (by a FIT, by another BOX that is ASKED, by a call) is a MEMO of it,"
+                + " not ASKED again while it is there.");
         LaidOutBoxes x = Check.tree("fit(pad 1 1(block 5 5))");
         x.lays();
         due("by a FIT, and by who is asked", x.of(0, 12) * 100 + x.of(1, 12) * 10 + x.of(2, 12), 11);

@@ -38,8 +38,8 @@ final class MarkEdges {
     }
 
     private static void marked() {
-        Edge.of(3, "MARKED: a BOX is DIRTY; is it THE TOP, or were its BOUNDS JUST as it was LAID last, it has no MEMO and isn't"
-                + " BASED, it is on THE LIST, else its PARENT is MARKED, too;");
+        Edge.of(3, "MARKED: a BOX is DIRTY; is it THE TOP, or were its BOUNDS JUST as it was LAID last, it has no"
+                + " MEMO and isn't BASED, it is on THE LIST, else its PARENT is MARKED, too;");
         LaidOutBoxes x = Check.tree(JUST);
         x.tells(2, 0, 1);
         dueMarked("never LAID", x, 15, 1);
@@ -143,7 +143,8 @@ final class MarkEdges {
     }
 
     private static void markedAgain() {
-        Edge.of(3, "MARKED is a BOX that is DIRTY already all over again (its MEMOS go, THE LIST or its PARENT likewise).");
+        Edge.of(3, "MARKED is a BOX that is DIRTY already all over again (its MEMOS go, THE LIST or its PARENT"
+                + " likewise).");
         LaidOutBoxes x = Check.laidTree(JUST);
         x.tells(3, 0, 2);
         x.tells(3, 0, 3);
@@ -165,8 +166,8 @@ final class MarkEdges {
     }
 
     private static void laidOut() {
-        Edge.of(12, "LAID OUT: BOXES on THE LIST, by how deep they are (THE TOP 0), of alike ones by numbers, each that is DIRTY"
-                + " still:");
+        Edge.of(12, "LAID OUT: BOXES on THE LIST, by how deep they are (THE TOP 0), of alike ones by numbers, each"
+                + " that is DIRTY still:");
         LaidOutBoxes x = ratios();
         due("24 deep", x.lays(), 24);
         for (int i = 23; i >= 0; i--) {
@@ -189,7 +190,8 @@ final class MarkEdges {
     }
 
     private static void laidBy() {
-        Edge.of(12, "THE TOP by 0 to THE SCREEN's WIDE, 0 to its HIGH, another by the BOUNDS it had; then THE LIST is empty.");
+        Edge.of(12, "THE TOP by 0 to THE SCREEN's WIDE, 0 to its HIGH, another by the BOUNDS it had; then THE LIST is"
+                + " empty.");
         LaidOutBoxes x = Check.onScreen(0, 1000, JUST);
         Check.dueBounds(x, 0, 0, 0, 0, 1000);
         x.screen(200, 0);
@@ -211,8 +213,8 @@ final class MarkEdges {
     }
 
     private static void skipsAndVisits() {
-        Edge.of(12, "To be LAID: not DIRTY, and by the BOUNDS it had: a SKIP, nothing more; else a VISIT: it and its CHILDREN as"
-                + " told above, it isn't DIRTY then, nor BASED.");
+        Edge.of(12, "To be LAID: not DIRTY, and by the BOUNDS it had: a SKIP, nothing more; else a VISIT: it and its"
+                + " CHILDREN as told above, it isn't DIRTY then, nor BASED.");
         LaidOutBoxes x = Check.laidTree("row 0 0(column 0 0(block 1 1,block 1 1),block 2 2)");
         x.tells(0, 1, 3);
         due("who is clean is a SKIP, its CHILDREN nothing", x.lays() * 10 + x.told(8), 12);
@@ -275,8 +277,8 @@ final class MarkEdges {
     }
 
     private static void at() {
-        Edge.of(13, "Of a BOX, as LAID last (never LAID: 0, BASE NO_SUCH): 0 x, 1 y, 2 and 3 these in THE TOP, 4 WIDE, 5 HIGH, 6"
-                + " OVER, 7 ROUNDS, 8 BASE (NO_SUCH).");
+        Edge.of(13, "Of a BOX, as LAID last (never LAID: 0, BASE NO_SUCH): 0 x, 1 y, 2 and 3 these in THE TOP, 4"
+                + " WIDE, 5 HIGH, 6 OVER, 7 ROUNDS, 8 BASE (NO_SUCH).");
         LaidOutBoxes x = Check.tree("pad 3 4(row 0 0(text 1 2*1,pad 1 2(block 1 1)))");
         for (int box = 0; box < 5; box++) {
             Check.dueAt(x, box, 0, 0, 0, 0, 0, 0, 0, 0, 0, NO_SUCH);
@@ -373,7 +375,8 @@ final class MarkEdges {
         for (int[] p : points) {
             due("hit(" + p[0] + ", " + p[1] + ")", x.hit(p[0], p[1]), p[2]);
         }
-        Edge.of(16, "AT a point: of THE TOP, if the point is in it, the last of its CHILDREN that is AT it, in turn, else itself.");
+        Edge.of(16, "AT a point: of THE TOP, if the point is in it, the last of its CHILDREN that is AT it, in turn,"
+                + " else itself.");
         LaidOutBoxes y = Check.laidTree("layers 0(block 9 9,block 5 5,layers 0(block 3 3))");
         int[][] layered = {{2, 4}, {3, 2}, {5, 1}, {8, 1}, {9, NO_SUCH}};
         for (int[] l : layered) {
@@ -396,9 +399,10 @@ final class MarkEdges {
     }
 
     private static void told() {
-        Edge.of(17, "What 0 SCREEN's WIDE, 1 HIGH, 2 THE TOP (NO_SUCH), 3 BOXES there (bits), 4 DIRTY ones, 5 those on THE LIST, 6"
-                + " those OVER (as LAID last), 7 VISITS, 8 SKIPS of the latest lays() (0 at first), 9 how many BOXES came, 10"
-                + " letters, 11 rows of the PLAN, 12 WORK, 13 how many MEMOS were made in all (not in thought). NONE.");
+        Edge.of(17, "What 0 SCREEN's WIDE, 1 HIGH, 2 THE TOP (NO_SUCH), 3 BOXES there (bits), 4 DIRTY ones, 5 those"
+                + " on THE LIST, 6 those OVER (as LAID last), 7 VISITS, 8 SKIPS of the latest lays() (0 at first), 9"
+                + " how many BOXES came, 10 letters, 11 rows of the PLAN, 12 WORK, 13 how many MEMOS were made in all"
+                + " (not in thought). NONE.");
         LaidOutBoxes x = new LaidOutBoxes();
         int[] atFirst = {100, 100, NO_SUCH, 0, 0, 0, 0, 0, 0, 0, 0, 0, 0, 0};
         for (int what = 0; what <= 13; what++) {

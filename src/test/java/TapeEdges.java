@@ -64,8 +64,8 @@ final class TapeEdges {
     }
 
     private static void judged() {
-        Edge.of(31, "JUDGED: WIDES, as LAID last, of BOXES there, by numbers, told by a row of ints from a place on: the number of"
-                + " the first BOX that is otherwise; -5: none;");
+        Edge.of(31, "JUDGED: WIDES, as LAID last, of BOXES there, by numbers, told by a row of ints from a place on:"
+                + " the number of the first BOX that is otherwise; -5: none;");
         LaidOutBoxes x = Check.laidTree("row 0 0(block 10 5,block 3 3,block 0 0)");
         fill(x, 0, INTS, 13, 10, 3, 0);
         due("none", x.judge(0, 0), NO_SUCH);
@@ -97,8 +97,8 @@ final class TapeEdges {
     }
 
     private static void theRowEnds() {
-        Edge.of(31, "100 and how many were looked at, if the row ends ahead of that (or the place is below 0, or the TAPE holds"
-                + " nothing).");
+        Edge.of(31, "100 and how many were looked at, if the row ends ahead of that (or the place is below 0, or the"
+                + " TAPE holds nothing).");
         LaidOutBoxes x = Check.laidTree("row 0 0(block 10 5,block 3 3,block 0 0)");
         due("the TAPE holds nothing", x.judge(3, 0), 100);
         due("the TAPE holds nothing, and the place is below 0", x.judge(3, -1), 100);
@@ -128,7 +128,8 @@ final class TapeEdges {
     }
 
     private static void tape() {
-        Edge.of(32, "A TAPE becomes a row of n (0 .. 60) of a sort, all 0, or holds nothing (sort -1: n does not matter): 1.");
+        Edge.of(32, "A TAPE becomes a row of n (0 .. 60) of a sort, all 0, or holds nothing (sort -1: n does not"
+                + " matter): 1.");
         LaidOutBoxes x = new LaidOutBoxes();
         for (int sort = BYTES; sort <= LONGS; sort++) {
             due("60", x.tape(0, sort, 60), 1);
@@ -206,7 +207,8 @@ final class TapeEdges {
     }
 
     private static void shift() {
-        Edge.of(35, "n items of a TAPE from i on come to another one (or the same) from j on, as they all were before: n.");
+        Edge.of(35, "n items of a TAPE from i on come to another one (or the same) from j on, as they all were"
+                + " before: n.");
         for (int sort = BYTES; sort <= LONGS; sort++) {
             LaidOutBoxes x = new LaidOutBoxes();
             fill(x, 0, sort, 1, 2, 3, 4, 5);
@@ -235,7 +237,8 @@ final class TapeEdges {
     }
 
     private static void shiftRefused() {
-        Edge.of(35, "NONE: tapes; NOTHING; CAST: of unlike sorts; PLACE: n, i or j is below 0, or beyond either's end.");
+        Edge.of(35, "NONE: tapes; NOTHING; CAST: of unlike sorts; PLACE: n, i or j is below 0, or beyond either's"
+                + " end.");
         LaidOutBoxes x = new LaidOutBoxes();
         fill(x, 0, INTS, 1, 2, 3, 4, 5);
         fill(x, 1, INTS, 6, 7, 8);
@@ -265,8 +268,8 @@ final class TapeEdges {
     }
 
     private static void image() {
-        Edge.of(36, "THE IMAGE is taken of BOXES with all that is theirs, THE SCREEN, THE LIST, how many came, the PLAN, SEED: how"
-                + " many BOXES there are.");
+        Edge.of(36, "THE IMAGE is taken of BOXES with all that is theirs, THE SCREEN, THE LIST, how many came, the"
+                + " PLAN, SEED: how many BOXES there are.");
         LaidOutBoxes x = new LaidOutBoxes();
         due("of nothing", x.image(), 0);
         for (int i = 0; i < 24; i++) {
@@ -327,6 +330,36 @@ final class TapeEdges {
         due("from nothing", x.undo(), 7);
         Check.sameText("all", Check.all(x), kept);
         due("the numbers go on from there", x.comes(0, 0, 1, 1, 0, 0), 7);
+        keptMemos();
+        givenAgain();
+    }
+
+    private static void keptMemos() {
+        LaidOutBoxes x = Check.tree("text 3 2");
+        x.asks(0, 0);
+        x.asks(0, 1);
+        x.image();
+        x.tells(0, 0, 1);
+        x.tells(0, 1, 0);
+        due("other answers", x.asks(0, 0) * 100 + x.asks(0, 1), 101);
+        x.undo();
+        due("as they were", x.asks(0, 0) * 100 + x.asks(0, 1), 1908);
+        due("by MEMOS", x.told(13), 4);
+    }
+
+    private static void givenAgain() {
+        LaidOutBoxes x = Check.laidTree("row 0 0");
+        x.image();
+        Check.read(x, 0, "row 4 9*3(block 9 9,block 9 9*1)");
+        x.tells(1, 6, 9);
+        x.tells(1, 4, 0);
+        x.lays();
+        Check.dueAt(x, 1, 4, 9, 9, 9, 1, 9);
+        x.undo();
+        due("a number given again", x.comes(8, 0, 4, 0, 0, 0), 1);
+        Check.dueAt(x, 1, 0, 0, 0, 0, 0, 0, 0, 0, 0, NO_SUCH);
+        due("never LAID", x.bounds(1, 0), NO_SUCH);
+        due("as at first", x.of(1, 2) * 1000000 + x.of(1, 7) * 10000 + x.of(1, 8) * 100 + x.of(1, 9), 99);
     }
 
     private static void undo() {
@@ -370,7 +403,8 @@ final class TapeEdges {
     }
 
     private static void answers() {
-        Edge.of(1, "Answers: NONE (-1) no such number; BAD (-2) a number is not as told; STATE (-3) as told; FULL (-4); NO_SUCH (-5);");
+        Edge.of(1, "Answers: NONE (-1) no such number; BAD (-2) a number is not as told; STATE (-3) as told; FULL"
+                + " (-4); NO_SUCH (-5);");
         due("NONE", LaidOutBoxes.NONE, NONE);
         due("BAD", LaidOutBoxes.BAD, BAD);
         due("STATE", LaidOutBoxes.STATE, STATE);
@@ -378,8 +412,8 @@ final class TapeEdges {
         due("NO_SUCH", LaidOutBoxes.NO_SUCH, NO_SUCH);
         Edge.of(1, "The constants: `NO = Long.MIN_VALUE`: There is no such number.");
         due("NO", LaidOutBoxes.NO, Long.MIN_VALUE);
-        Edge.of(1, "The host's refusals: NOTHING (-11): nothing is there; CAST (-12): another sort or KIND; PLACE (-13): no such place;"
-                + " SIZE (-14): a size below 0.");
+        Edge.of(1, "The host's refusals: NOTHING (-11): nothing is there; CAST (-12): another sort or KIND; PLACE"
+                + " (-13): no such place; SIZE (-14): a size below 0.");
         LaidOutBoxes x = new LaidOutBoxes();
         due("NOTHING", x.item(0, 0, 1), -11);
         due("NOTHING", x.taken(0, 0), -11);

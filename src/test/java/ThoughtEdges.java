@@ -57,8 +57,8 @@ final class ThoughtEdges {
         z.drops(1);
         z.tall(50);
         due("those there alone", z.told(12), 6 + 4);
-        Edge.of(17, "Copies in thought, each of which counts how many BOXES there are, and each time it is LAID OUT its VISITS and"
-                + " SKIPS:");
+        Edge.of(17, "Copies in thought, each of which counts how many BOXES there are, and each time it is LAID OUT"
+                + " its VISITS and SKIPS:");
         LaidOutBoxes none = new LaidOutBoxes();
         none.agrees();
         none.saved();
@@ -143,8 +143,8 @@ final class ThoughtEdges {
     }
 
     private static void agrees() {
-        Edge.of(18, "AGREES: LAID OUT, each BOX has place, SIZE, OVER as another copy has in which all are DIRTY without MEMOS and"
-                + " THE TOP alone is on THE LIST.");
+        Edge.of(18, "AGREES: LAID OUT, each BOX has place, SIZE, OVER as another copy has in which all are DIRTY"
+                + " without MEMOS and THE TOP alone is on THE LIST.");
         due("nothing there", new LaidOutBoxes().agrees(), 1);
         due("never LAID", Check.tree(TWO).agrees(), 1);
         due("LAID", Check.laidTree(TWO).agrees(), 1);
@@ -164,6 +164,10 @@ final class ThoughtEdges {
         x.lays();
         due("laid by the new one", x.at(4, 1), 8);
         due("it agrees", x.agrees(), 1);
+        agreesButForTheTop();
+        LaidOutBoxes asked = Check.laidTree("fit(text 3 3)");
+        asked.tells(1, 0, 5);
+        due("without MEMOS, also those that are gone already", asked.agrees(), 1);
         Edge.of(18, "agrees() two, each LAID OUT once (the second one anew);");
         LaidOutBoxes y = Check.laidTree(TWO);
         y.agrees();
@@ -175,8 +179,25 @@ final class ThoughtEdges {
         due("1", y.agrees(), 1);
     }
 
+    /** A BASE below all that there is makes THE TOP higher, and moves nobody in it. */
+    private static void agreesButForTheTop() {
+        LaidOutBoxes x = Check.tree("row 0 0(ratio 1 1(row 4 0(pad 0 3(text 1 0))))");
+        x.tells(1, 6, 5);
+        x.lays();
+        x.tells(0, 0, 4);
+        x.tells(3, 1, 15);
+        due("HIGH of THE TOP alone is otherwise", x.agrees(), 0);
+        x.lays();
+        due("HIGH", x.at(0, 5), 5);
+        x.tells(0, 0, 4);
+        x.lays();
+        due("HIGH anew", x.at(0, 5), 16);
+        due("it agrees", x.agrees(), 1);
+    }
+
     private static void narrowest() {
-        Edge.of(19, "NARROWEST: the least WIDE (0 .. 200) of THE SCREEN by which, LAID OUT, no BOX is OVER (NO_SUCH: none).");
+        Edge.of(19, "NARROWEST: the least WIDE (0 .. 200) of THE SCREEN by which, LAID OUT, no BOX is OVER (NO_SUCH:"
+                + " none).");
         due("0", Check.tree("row 0 0(fit)").narrowest(), 0);
         due("1", Check.tree("row 0 0(block 1 1)").narrowest(), 1);
         due("within a PAD", Check.tree("pad 5 0(row 0 0(block 10 1))").narrowest(), 20);
@@ -338,7 +359,8 @@ final class ThoughtEdges {
     }
 
     private static void plan() {
-        Edge.of(24, "A row comes to the PLAN: how many there are (box -1: it is empty then, 0, whatever the other is).");
+        Edge.of(24, "A row comes to the PLAN: how many there are (box -1: it is empty then, 0, whatever the other"
+                + " is).");
         LaidOutBoxes x = Check.tree("row 0 0(fit,fit)");
         due("an empty one made empty", x.plan(-1, 0), 0);
         due("the first", x.plan(0, 0), 1);
@@ -369,8 +391,8 @@ final class ThoughtEdges {
     }
 
     private static void saved() {
-        Edge.of(25, "SAVED: rows of the PLAN (a BOX's SHARE becomes a number; 8 at most; those of BOXES that are not there are passed"
-                + " over):");
+        Edge.of(25, "SAVED: rows of the PLAN (a BOX's SHARE becomes a number; 8 at most; those of BOXES that are not"
+                + " there are passed over):");
         LaidOutBoxes x = Check.laidTree(TWO);
         for (int i = 0; i < 8; i++) {
             x.plan(1, i % 2 == 0 ? 9 : 1);
@@ -379,8 +401,8 @@ final class ThoughtEdges {
         x.drops(1);
         due("all of them passed over", x.saved(), 0);
         due("SHARES stay", x.of(2, 7), 0);
-        Edge.of(25, "LAID OUT, then behind each row, all VISITS but the first LAYING OUT's, less those of LAYING OUT once behind all"
-                + " of them.");
+        Edge.of(25, "LAID OUT, then behind each row, all VISITS but the first LAYING OUT's, less those of LAYING OUT"
+                + " once behind all of them.");
         LaidOutBoxes y = Check.tree(TWO);
         due("an empty PLAN", y.saved(), 0);
         y.plan(0, 5);
@@ -391,8 +413,12 @@ final class ThoughtEdges {
         due("2 and 3, less 3", y.saved(), 2);
         y.plan(2, 0);
         due("2 and 3 and 3, less 2", y.saved(), 6);
-        Edge.of(25, "saved() two, each LAID OUT ahead of the PLAN, then the one behind each row whose BOX is there, the other once"
-                + " behind all;");
+        LaidOutBoxes least = Check.laidTree(TWO);
+        least.tells(1, 5, 1);
+        least.plan(1, 1);
+        due("SHARES alone become a number", least.saved(), 0);
+        Edge.of(25, "saved() two, each LAID OUT ahead of the PLAN, then the one behind each row whose BOX is there,"
+                + " the other once behind all;");
         LaidOutBoxes z = Check.laidTree(TWO);
         z.saved();
         due("two copies", z.told(12), 6);
@@ -408,8 +434,8 @@ final class ThoughtEdges {
     }
 
     private static void likely() {
-        Edge.of(26, "LIKELY: each of the first 6 BLOCKS (by numbers), by itself, is 0 by 0 (its a, then its b is told so on a copy)"
-                + " with odds 1 in t: how likely nothing is OVER: a fraction.");
+        Edge.of(26, "LIKELY: each of the first 6 BLOCKS (by numbers), by itself, is 0 by 0 (its a, then its b is told"
+                + " so on a copy) with odds 1 in t: how likely nothing is OVER: a fraction.");
         LaidOutBoxes six = Check.tree("row 0 0(block 1 1,block 1 1,block 1 1,block 1 1,block 1 1,block 1 1)");
         six.screen(0, 9);
         due("all six, above", six.likely(20, 0), 1);
@@ -477,7 +503,8 @@ final class ThoughtEdges {
     }
 
     private static void drawn() {
-        Edge.of(27, "DRAWN: n times THE SCREEN's WIDE is a DRAW below 101 on a copy: all OVER together (SEED goes on by it).");
+        Edge.of(27, "DRAWN: n times THE SCREEN's WIDE is a DRAW below 101 on a copy: all OVER together (SEED goes on"
+                + " by it).");
         // 100 WIDE in all, so that OVER tells each WIDE from 0 to 100
         LaidOutBoxes x = Check.laidTree("row 0 0(block 99 1,block 1 1)");
         int[] seed = {1};
@@ -517,7 +544,8 @@ final class ThoughtEdges {
     }
 
     private static void draws() {
-        Edge.of(27, "A DRAW below m: SEED becomes SEED times 1103515245 plus 12345 (an int), its upper 16 bits (no sign), modulo m.");
+        Edge.of(27, "A DRAW below m: SEED becomes SEED times 1103515245 plus 12345 (an int), its upper 16 bits (no"
+                + " sign), modulo m.");
         LaidOutBoxes x = Check.laidTree("row 0 0(block 99 1,block 1 1)");
         for (int first : new int[] {0, 1, -1, 2, LOWEST, HIGHEST, LOWEST + 1, 1 << 30, 65536, -65536, 12345}) {
             int[] seed = {first};
@@ -575,7 +603,8 @@ final class ThoughtEdges {
     }
 
     private static void taken() {
-        Edge.of(30, "A BOX taken for one of KIND k (0 .. 9; a COLUMN is a ROW, too, a FIT a CENTRE, a LIMIT a PAD): its KIND.");
+        Edge.of(30, "A BOX taken for one of KIND k (0 .. 9; a COLUMN is a ROW, too, a FIT a CENTRE, a LIMIT a PAD):"
+                + " its KIND.");
         for (int kind = 0; kind < 10; kind++) {
             LaidOutBoxes x = new LaidOutBoxes();
             x.comes(kind, -1, 1, 1, 1, 1);

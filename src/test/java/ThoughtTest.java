@@ -18,7 +18,6 @@ public final class ThoughtTest {
         mean();
         taken();
         nothingChanges();
-        justEnoughWork();
         tooMuchWork();
         Check.end("promises 18 to 30");
     }
@@ -284,18 +283,6 @@ public final class ThoughtTest {
         x.saved();
         x.likely(3, 1);
         Check.sameText("18 to 26 change nothing but WORK", Check.all(x).replaceFirst("^(\\S+ ){12}\\S+", ""), before);
-    }
-
-    private static void justEnoughWork() {
-        LaidOutBoxes x = Check.tree("block 1 1");
-        for (int i = 0; i < 19999; i++) {
-            x.tall(i % 200);
-        }
-        due("17: WORK", x.told(12), 39998);
-        due("20: begun below 40000", x.tall(9), 1);
-        due("17: WORK", x.told(12), 40000);
-        due("20: FULL at 40000", x.tall(9), FULL);
-        due("26: FULL at 40000", x.likely(2, 1), NO);
     }
 
     private static void tooMuchWork() {

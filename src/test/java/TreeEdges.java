@@ -120,10 +120,17 @@ final class TreeEdges {
         fault("(fit)", 0);
         good("fit(fit(fit(fit)))", 4);
         good("row 1 1(fit(fit),fit(fit(fit)),fit)", 7);
+        String deep = "fit(".repeat(23) + "fit" + ")".repeat(23);
+        good(deep, 24);
+        fault(deep + ")", 118);
+        fault(deep.substring(1), 0);
+        fault(deep.substring(0, 117), 117);
+        Check.sameText("24 deep", Check.print(Check.tree(deep), 0), deep);
     }
 
     private static void numberFaults() {
-        Edge.of(10, "FAULT: the place of: a number that may not be, its first figure (of b below a, of d below c, too);");
+        Edge.of(10, "FAULT: the place of: a number that may not be, its first figure (of b below a, of d below c,"
+                + " too);");
         int[][] highest = {{99, 99}, {12, 31}, {20, 20}, {99, 99, 99, 99}, {}, {}, {9, 9}, {2}, {4, 20}, {4, 20}};
         for (int kind = 0; kind < 10; kind++) {
             for (int i = 0; i < NUMBERS[kind]; i++) {
@@ -195,8 +202,8 @@ final class TreeEdges {
     }
 
     private static void severalFaults() {
-        Edge.of(10, "Of several FAULTS of a TREE the one whose place is least; a third figure of a number is a letter with which none"
-                + " goes on.");
+        Edge.of(10, "Of several FAULTS of a TREE the one whose place is least; a third figure of a number is a letter"
+                + " with which none goes on.");
         fault("row 100 0", 4);
         fault("row 040 0", 6);
         fault("row 004 0", 6);
@@ -236,14 +243,16 @@ final class TreeEdges {
     }
 
     private static void reads() {
-        Edge.of(10, "The letters, which are none then, become a TREE, that comes as the last CHILD of a PARENT (-1: as THE TOP):"
-                + " how many BOXES; -100 less the FAULT.");
+        Edge.of(10, "The letters, which are none then, become a TREE, that comes as the last CHILD of a PARENT (-1:"
+                + " as THE TOP): how many BOXES; -100 less the FAULT.");
         LaidOutBoxes x = new LaidOutBoxes();
         due("as THE TOP", Check.read(x, -1, "row 1 1(fit)"), 2);
         due("none then", x.told(10), 0);
         due("THE TOP", x.told(2), 0);
         due("as the last CHILD", Check.read(x, 0, "centre(fit)") * 10 + x.child(0, 1), 22);
         due("of another", Check.read(x, 1, "fit") * 10 + x.child(1, 0), 14);
+        due("letters of an earlier TREE are none", Check.read(x, 0, "fi"), -102);
+        due("letters of an earlier TREE are none", Check.read(x, 0, "centre("), -107);
         due("FAULT 0", Check.read(x, 0, "!"), -100);
         due("FAULT 7", Check.read(x, 0, "row 1 1!"), -107);
         String tooFew = "row 00 00(fit,fit,fit,fit,fit,fit,fit,row 00 00(fit,fit,fit,fit,fit,fit,fit,"
@@ -268,7 +277,8 @@ final class TreeEdges {
         x.drops(2);
         due("a PARENT that is gone", Check.read(x, 2, "fit"), NONE);
         due("read then", x.reads(1), 1);
-        Edge.of(10, "reads(): NONE and STATE are looked at ahead of the letters; with a FAULT no BOX comes, and the letters are none.");
+        Edge.of(10, "reads(): NONE and STATE are looked at ahead of the letters; with a FAULT no BOX comes, and the"
+                + " letters are none.");
         due("NONE ahead of a FAULT", Check.read(x, 9, "x"), NONE);
         due("STATE ahead of a FAULT", x.reads(-1), STATE);
         due("STATE ahead of a FAULT", x.reads(0), STATE);
@@ -291,7 +301,8 @@ final class TreeEdges {
     }
 
     private static void printedWords() {
-        Edge.of(11, "PRINTED: a BOX with all in it likewise, * if it has a SHARE, () if it has CHILDREN (its LEAST, MOST not).");
+        Edge.of(11, "PRINTED: a BOX with all in it likewise, * if it has a SHARE, () if it has CHILDREN (its LEAST,"
+                + " MOST not).");
         for (int kind = 0; kind < 10; kind++) {
             Check.sameText("KIND " + kind, Check.print(Check.tree(whole(kind)), 0), whole(kind));
         }
